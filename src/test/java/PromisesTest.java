@@ -252,6 +252,16 @@ public final class PromisesTest {
         CarpetLane y = laneOf("carpet shut;carpet dust 51 has 3;carpet");
         due(51, y.beat(1, 9));
         due(26, y.now(1));
+        y.change(0, 2, 1);
+        y.change(0, 3, 64);
+        y.change(0, 5, 0);
+        // A mark goes over with one grain of dust, though none of it is caught.
+        due(1, y.beat(0, 9));
+        carpetIs(y, 1, 0, 1, 0, 65);
+        due(27, y.now(1));
+        y.change(0, 5, 1);
+        y.change(0, 2, 0);
+        y.change(0, 3, 0);
         carpetIs(y, 0, 0, 1, 0, 0);
         carpetIs(y, 2, 0, 1, 25, 2);
         CarpetLane alone = laneOf("mat dust 9");
@@ -396,6 +406,7 @@ public final class PromisesTest {
         due(5, x.comes(2, 6));
         due(1, x.comes(0, 1));
         due(NONE, x.comes(0, 7));
+        due(NONE, x.comes(0, 11));
         due(BEYOND, x.comes(3, 0));
         due(BEYOND, x.comes(-1, 0));
         due(BEYOND, x.comes(0, -1));
@@ -475,6 +486,8 @@ public final class PromisesTest {
         due(NONE, x.forceFor(3, 10, 4));
         due(7, x.listed(2));
         due(0, x.forceFor(0, 9999, 60));
+        x.list(5, 0, 3);
+        due(1, x.forceFor(5, 29, 6));
         for (int bad : new int[] {-1, 6}) due(BEYOND, x.forceFor(bad, 0, 0));
         for (int bad : new int[] {-1, 10000}) due(BEYOND, x.forceFor(0, bad, 0));
         for (int bad : new int[] {-1, 61}) due(BEYOND, x.forceFor(0, 0, bad));
@@ -499,6 +512,11 @@ public final class PromisesTest {
         for (int bad : new int[] {-1, 61}) due(BEYOND, x.turnFor(0, bad));
         due(0, x.turnFor(0, 60));
         due(0, new CarpetLane().turnFor(5, 60));
+        // Force 1 is too little for a turkey; mat 4 gives 35, of which 8 are caught, mat 1 gives 25, of which 10 are.
+        CarpetLane y = laneOf("turkey feet 0 dust 99;mat feet 0 dust 20;aisle;rug feet 0 dust 2;mat feet 0 dust 30;beat 0 7 1");
+        due(4, y.turnFor(0, 1));
+        y.change(4, 5, 1);
+        due(1, y.turnFor(0, 1));
     }
 
     static void promise21() {
@@ -538,6 +556,7 @@ public final class PromisesTest {
         for (int bad : new int[] {-1, 12}) due(BEYOND, x.shut(0, bad, 0));
         for (int bad : new int[] {-1, 21}) due(BEYOND, x.shut(0, 0, bad));
         due(0, x.shut(0, 0, 20));
+        due(0, x.shut(0, 11, 20));
         shutTwo();
     }
 
@@ -599,6 +618,12 @@ public final class PromisesTest {
         due(1, x.fits(0, 1));
         sheet(x, 0, 32, -1, -1, 0);
         due(10, x.fits(0, 1));
+        // Of a beating of carpet 1 with any force above 0 a mat keeps nothing.
+        CarpetLane y = laneOf("carpet feet 0;mat feet 0;beat 0 1 9");
+        sheet(y, 3, 8, 0, 0);
+        due(9, y.fits(3, 1));
+        sheet(y, 3, 8, 0, 5);
+        due(1, y.fits(3, 1));
         fitsAgain();
     }
 
@@ -880,6 +905,8 @@ public final class PromisesTest {
         CarpetLane x = laneOf("carpet dust 1;carpet dust 2;carpet dust 3;carpet dust 4;carpet dust 5");
         due(BEYOND, x.copy(4, 0, 0, 0, -1));
         due(BEYOND, x.copy(0, 0, -1, 0, -1));
+        due(BEYOND, x.copy(0, 0, 4, 0, -1));
+        due(MISSING, x.copy(3, 0, 3, 0, -1));
         due(MISSING, x.copy(0, 0, 1, 0, -1));
         sheet(x, 0, 16, 3, 4, 5);
         due(MISSING, x.copy(0, 0, 1, 0, -1));
@@ -961,6 +988,7 @@ public final class PromisesTest {
         x.hold(4, -1);
         x.hold(5, 0);
         x.carpet(6, 3);
+        for (int what = 0; what < 7; what++) x.change(2, what, 1);
         x.air(1);
         due(3, x.undo());
         due(1, seen(x).equals(before) ? 1 : 0);
