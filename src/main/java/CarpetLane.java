@@ -1222,7 +1222,7 @@ public final class CarpetLane {
         }
 
         private boolean isNumber(int most) {
-            return token == NUMBER && value <= most;
+            return token == NUMBER && isWithin(value, most);
         }
 
         private void advance() {

@@ -137,10 +137,12 @@ public final class LaneEdgesTest extends Edges {
         refused(Edges::full, BEYOND, x -> x.carpet(-1, 0));
         refused(Edges::full, BEYOND, x -> x.carpet(0, 4096));
         refused(Edges::full, BEYOND, x -> x.carpet(0, -1));
-        // An undo() to a lane with room makes room again.
+        // An undo() to a lane with room makes room again, for a carpet that is new in all.
         CarpetLane x = full();
+        for (int what = 0; what < 7; what++) x.change(5, what, 1);
         x.undo();
         due(5, x.carpet(0, 0));
+        carpetIs(x, 5, 0, 0, 0, 0, 0, 0, 0);
     }
 
     // ---- 6: of
@@ -181,6 +183,19 @@ public final class LaneEdgesTest extends Edges {
             due(MOST_OF[what], x.change(7, what, 0));
             due(0, x.change(7, what, MOST_OF[what]));
             due(MOST_OF[what], x.of(7, what));
+        }
+    }
+
+    static void changeLeavesTheRest() {
+        at(7, "becomes v");
+        for (int what = 0; what < 7; what++) {
+            CarpetLane x = laneOf("rug feet 2 dust 3 has 4;rug feet 2 dust 3 has 4;rug feet 2 dust 3 has 4");
+            int[] wanted = {1, 2, 3, 4, 0, 0, 0};
+            due(wanted[what], x.change(1, what, MOST_OF[what]));
+            carpetIs(x, 0, wanted);
+            carpetIs(x, 2, wanted);
+            wanted[what] = MOST_OF[what];
+            carpetIs(x, 1, wanted);
         }
     }
 

@@ -192,6 +192,16 @@ public final class QuestionEdgesTest extends Edges {
         Made away = () -> laneOf("carpet feet 0 dust 100;beat 2 1 7");
         asks(away, 0, x -> x.forceFor(2, 100, 3));
         refused(away, NONE, x -> x.forceFor(2, 99, 3));
+        // The last carpet, and whatever force it was beaten with.
+        for (int force = 0; force <= 9; force++) {
+            CarpetLane last = bare();
+            last.change(7, 2, 90);
+            last.list(5, 7, force);
+            due(2, last.forceFor(5, 80, 6));
+            due(9, last.forceFor(5, 45, 6));
+            due(NONE, last.forceFor(5, 44, 6));
+            due(70 + force, last.listed(5));
+        }
         CarpetLane x = bare();
         for (int c = 0; c < 8; c++) x.change(c, 2, 999);
         due(0, x.forceFor(0, 9999, 0));
@@ -383,6 +393,13 @@ public final class QuestionEdgesTest extends Edges {
         due(1, x.cover(16));
         x.change(6, 3, 4095);
         due(64, x.cover(4095));
+        // Two of lesser numbers are more than one.
+        due(64, x.cover(48));
+        x.change(6, 3, 0);
+        due(128, x.cover(48));
+        x.change(7, 3, 0);
+        due(3, x.cover(48));
+        // A shut one has its marks, too.
         x.change(0, 5, 1);
         due(1, x.cover(16));
         due(0, x.cover(0));
@@ -426,6 +443,19 @@ public final class QuestionEdgesTest extends Edges {
             due(0, x.fits(0, 0));
         }
         due(6, x.listed(0));
+        // The last carpet, whatever force it was to be beaten with, as it is told and as its side is.
+        for (int force = 0; force <= 9; force++) {
+            CarpetLane last = bare();
+            last.change(7, 2, 90);
+            last.list(0, 7, force);
+            sheet(last, 1, 16, 90, 40);
+            due(1, last.fits(1, 7));
+            sheet(last, 1, 16, 0, 45);
+            due(1, last.fits(1, 6));
+            sheet(last, 1, 16, 0, 0);
+            due(1, last.fits(1, 6));
+            due(10, last.fits(1, 5));
+        }
     }
 
     static void fitsAFullSheet() {

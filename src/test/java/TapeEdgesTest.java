@@ -190,6 +190,8 @@ public final class TapeEdgesTest extends Edges {
                 due(BEYOND, x.write(s, 40, 5));
                 due(1, x.write(s, 1, 5));
                 due(2, x.judge(s));
+                due(1, x.write(s, 0, 5));
+                due(1, x.judge(s));
                 due(2, x.sheet(s, bits, 2));
                 due(0, x.judge(s));
                 due(BEYOND, x.write(s, 2, 0));

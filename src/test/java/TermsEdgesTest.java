@@ -470,6 +470,12 @@ public final class TermsEdgesTest extends Edges {
         due(9, x.now(1));
         due(-1 - 4, read(x, "air 10000"));
         due(-1 - 4, read(x, "air 99999999999999999999"));
+        // Numbers that an int or a long would take for 5, for one below 0, or for 0.
+        for (String n : new String[] {"4294967301", "2147483648", "18446744073709551621", "9223372036854775808", "1" + "0".repeat(64)}) {
+            due(-1 - 4, read(x, "air " + n));
+            due(-1 - 5, read(x, "beat " + n + " 0 0"));
+            due(-1 - 9, read(x, "mat feet " + n));
+        }
         due(9, x.now(1));
     }
 
@@ -565,6 +571,23 @@ public final class TermsEdgesTest extends Edges {
         due(-1 - 4, read(new CarpetLane(), "mat mut feet # 5000"));
         due(-1 - 9, read(new CarpetLane(), "mat feet 5000 # mut"));
         due(-1 - 3, read(new CarpetLane(), "mat# mut feet 5000"));
+    }
+
+    static void anotherWordIsAFault() {
+        at(TERMS, "another WORD");
+        String[] words = {"carpet", "rug", "turkey", "stair", "aisle", "mat", "pring", "beat", "air", "feet", "dust", "has", "shut"};
+        for (String word : words) {
+            String head = "feet dust has shut".contains(word) ? "mat " : "";
+            String tail = word.equals("beat") ? " 0 0 0" : "air feet dust has".contains(word) ? " 1" : "";
+            due(1, read(new CarpetLane(), head + word + tail));
+            due(-1 - head.length(), read(new CarpetLane(), head + word + "s" + tail));
+            due(-1 - head.length(), read(new CarpetLane(), head + word.substring(1) + tail));
+            due(-1 - head.length(), read(new CarpetLane(), head + word.substring(0, word.length() - 1) + tail));
+            for (int i = 0; i < word.length(); i++) {
+                String other = word.substring(0, i) + 'x' + word.substring(i + 1);
+                due(-1 - head.length(), read(new CarpetLane(), head + other + tail));
+            }
+        }
     }
 
     static void theNinthCarpetIsAFault() {
