@@ -384,8 +384,7 @@ public final class CarpetLane {
         }
         int marks = Integer.bitCount(lane.carpets[carpet].has);
         // A power of a fraction in lowest terms is in lowest terms, too.
-        int divisor = commonDivisor(marks, MARKS);
-        int root = what == 0 ? marks / divisor : MARKS / divisor;
+        int root = inLowestTerms(what == 0 ? marks : MARKS, marks);
         long power = 1;
         for (int i = 0; i < n; i++) {
             power *= root;
@@ -597,13 +596,14 @@ public final class CarpetLane {
         return 10 * carpet + force;
     }
 
-    private static int commonDivisor(int a, int b) {
-        for (int d = b; d > 1; d--) {
-            if (a % d == 0 && b % d == 0) {
-                return d;
+    // The part of marks / MARKS that is above or below the line, when it is in lowest terms.
+    private static int inLowestTerms(int part, int marks) {
+        for (int d = MARKS; d > 1; d--) {
+            if (marks % d == 0 && MARKS % d == 0) {
+                return part / d;
             }
         }
-        return 1;
+        return part;
     }
 
     private int findingOfSheet(int s) {

@@ -32,6 +32,7 @@ public final class FaceTest {
         TreeSet<String> names = faceIsWhole();
         for (Class<?> inside : CarpetLane.class.getDeclaredClasses()) insideIsInOrder(inside, names);
         fieldsAreInOrder(CarpetLane.class);
+        must(CarpetLane.class.getDeclaredClasses().length < 12, "at most twelve classes");
         sourceIsInOrder();
         System.out.println(wrong == 0 ? "the face is as told" : wrong + " rules are broken");
         if (wrong != 0) System.exit(1);
